@@ -7,6 +7,10 @@ public final class ModelsTest {
         least("", "s10", 0);
         least("", "d11", 0);
         least("", "d1d", 8);
+        least("", "d1CUUUabcd", 0);
+        least("", "d1IIIabcd", 15);
+        least("i1CUUUabcd", "n00", 0);
+        least("i1CUUUabcd i1IIIabcd", "n00", 0, 15);
         least("sab sbc", "sca", 4);
         least("sab sbc iab", "xca", 7);
         least("ndCd xd0 xCd0", "n00", 0, 8);
@@ -17,6 +21,7 @@ public final class ModelsTest {
         least("i1a i1b d1Iab", "s1Uab", 0, 1, 2);
         least("i1a i1b d1Iab", "iac", 1, 2);
         firstOfSeveral();
+        oneGoalAfterAnother();
         sevenElements();
         elementLimits();
         counting();
@@ -65,6 +70,27 @@ public final class ModelsTest {
         least("iaCb ibCa", "n00", 1, 2);
         least("iaCb ibCa icd", "n00", 1, 14);
         least("iaCb ibCa icd d1IbIcd", "n00", 2, 13);
+    }
+
+    /** Nothing of an earlier search is left behind in the next one. */
+    private static void oneGoalAfterAnother() {
+        Gimlet gimlet = posed("", "d1CUUUabcd");
+        int all = Check.make(gimlet, "1");
+        int first = Check.make(gimlet, "CUUUabcd");
+        int last = Check.make(gimlet, "IIIabcd");
+        Check.due("the first region", gimlet.region(0), 0);
+        gimlet.setGoal('d', all, last);
+        Check.due("the last region", gimlet.region(0), 15);
+        Check.due("one element by trying", gimlet.elementsByTrying(), 1);
+        gimlet.assume('d', all, first);
+        gimlet.assume('d', all, last);
+        gimlet.setGoal('d', all, first);
+        Check.noSuchElement("no region is left", gimlet, gimlet::elements);
+        Check.noSuchElement("no region is left by trying", gimlet, gimlet::elementsByTrying);
+        gimlet.drop();
+        gimlet.drop();
+        Check.due("the first region again", gimlet.region(0), 0);
+        Check.due("elements() again", gimlet.elements(), 1);
     }
 
     /** Six assumptions demand an element each in a part of their own, and the goal's denial one more. */

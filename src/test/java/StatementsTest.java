@@ -182,6 +182,15 @@ public final class StatementsTest {
         }
         gimlet.drop();
         Check.noSuchElement("a dropped denial", gimlet, () -> gimlet.deniedBy(7));
+
+        Gimlet first = leaves();
+        first.assume('s', A, B);
+        first.assume('d', A, A);
+        Check.due("denied by the assumption 0", first.deniedBy(5), 0);
+        Check.due("denied by the assumption 1", first.deniedBy(3), 1);
+        Check.noSuchElement("denied by neither", first, () -> first.deniedBy(2));
+        first.assume('n', C, C);
+        Check.noSuchElement("no model, but no denial", first, () -> first.deniedBy(2));
     }
 
     private static void following() {
