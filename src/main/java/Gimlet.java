@@ -1143,7 +1143,7 @@ public final class Gimlet {
         long countModelsByTrying(int elements) {
             long ways = 0;
             long all = power(REGIONS, elements);
-            for (int way = 0; way < all; way++) {
+            for (long way = 0; way < all; way++) {
                 if (allHold(occupiedBy(way, elements))) {
                     ways++;
                 }
@@ -1152,7 +1152,7 @@ public final class Gimlet {
         }
 
         /** The regions with elements if the digits of the way, to the base 16, tell each element's region. */
-        private static int occupiedBy(int way, int elements) {
+        private static int occupiedBy(long way, int elements) {
             int occupied = 0;
             for (int element = 0; element < elements; element++) {
                 occupied |= 1 << (way >> 4 * element & 15);

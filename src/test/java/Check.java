@@ -9,6 +9,7 @@ final class Check {
 
     private static int calls = 0;
     private static int wrong = 0;
+    private static String context = "";
 
     private Check() {
     }
@@ -17,8 +18,17 @@ final class Check {
         calls++;
         if (!Objects.equals(got, want)) {
             wrong++;
-            System.out.println(call + " answered " + got + ", due is " + want);
+            System.out.println(context + call + " answered " + got + ", due is " + want);
         }
+    }
+
+    /** What the checks from now on are about; told ahead of each answer that is not as due. */
+    static void context(String words) {
+        context = words;
+    }
+
+    static int calls() {
+        return calls;
     }
 
     static void holds(String what, boolean is) {
@@ -114,6 +124,25 @@ final class Check {
             default:
                 return gimlet.symmetric(left, right);
         }
+    }
+
+    /** An object with these statements: each is its kind and both terms, parted by spaces; "" for none. */
+    static Gimlet posed(String assumptions, String goal) {
+        Gimlet gimlet = new Gimlet();
+        for (String one : assumptions.isEmpty() ? new String[0] : assumptions.split(" ")) {
+            int[] sides = sides(gimlet, one);
+            gimlet.assume(one.charAt(0), sides[0], sides[1]);
+        }
+        if (!goal.isEmpty()) {
+            int[] sides = sides(gimlet, goal);
+            gimlet.setGoal(goal.charAt(0), sides[0], sides[1]);
+        }
+        return gimlet;
+    }
+
+    private static int[] sides(Gimlet gimlet, String statement) {
+        int end = Reference.end(statement, 1);
+        return new int[] {make(gimlet, statement.substring(1, end)), make(gimlet, statement.substring(end))};
     }
 
     /** Makes 120 terms, of which the first six are a, b, c, d, 0 and 1, and 114 is Ca. */

@@ -29,27 +29,8 @@ public final class ModelsTest {
         Check.finish("ModelsTest");
     }
 
-    /** Statements are written as their kind and both terms, parted by spaces. */
-    private static Gimlet posed(String assumptions, String goal) {
-        Gimlet gimlet = new Gimlet();
-        for (String one : assumptions.isEmpty() ? new String[0] : assumptions.split(" ")) {
-            int[] sides = sides(gimlet, one);
-            gimlet.assume(one.charAt(0), sides[0], sides[1]);
-        }
-        if (!goal.isEmpty()) {
-            int[] sides = sides(gimlet, goal);
-            gimlet.setGoal(goal.charAt(0), sides[0], sides[1]);
-        }
-        return gimlet;
-    }
-
-    private static int[] sides(Gimlet gimlet, String statement) {
-        int end = Reference.end(statement, 1);
-        return new int[] {Check.make(gimlet, statement.substring(1, end)), Check.make(gimlet, statement.substring(end))};
-    }
-
     private static void least(String assumptions, String goal, int... regions) {
-        Gimlet gimlet = posed(assumptions, goal);
+        Gimlet gimlet = Check.posed(assumptions, goal);
         String what = assumptions + " / " + goal;
         Check.holds("does not follow: " + what, !gimlet.follows());
         Check.due("elements: " + what, gimlet.elements(), regions.length);
@@ -74,7 +55,7 @@ public final class ModelsTest {
 
     /** Nothing of an earlier search is left behind in the next one. */
     private static void oneGoalAfterAnother() {
-        Gimlet gimlet = posed("", "d1CUUUabcd");
+        Gimlet gimlet = Check.posed("", "d1CUUUabcd");
         int all = Check.make(gimlet, "1");
         int first = Check.make(gimlet, "CUUUabcd");
         int last = Check.make(gimlet, "IIIabcd");
@@ -121,20 +102,20 @@ public final class ModelsTest {
     }
 
     private static void elementLimits() {
-        Gimlet gimlet = posed("sab", "sab");
+        Gimlet gimlet = Check.posed("sab", "sab");
         for (int element : new int[] {0, -1, 1}) {
             Check.noSuchElement("region(" + element + ") if the goal follows", gimlet, () -> gimlet.region(element));
         }
         Check.noSuchElement("elements() if the goal follows", gimlet, gimlet::elements);
         Check.noSuchElement("elementsByTrying() if the goal follows", gimlet, gimlet::elementsByTrying);
-        Gimlet none = posed("sab xab", "eab");
+        Gimlet none = Check.posed("sab xab", "eab");
         Check.noSuchElement("elements() without model", none, none::elements);
         Check.noSuchElement("elementsByTrying() without model", none, none::elementsByTrying);
         Check.noSuchElement("region(0) without model", none, () -> none.region(0));
     }
 
     private static void counts(String assumptions, long... ways) {
-        Gimlet gimlet = posed(assumptions, "");
+        Gimlet gimlet = Check.posed(assumptions, "");
         for (int elements = 0; elements < ways.length; elements++) {
             Check.due("models(" + elements + "): " + assumptions, gimlet.models(elements), ways[elements]);
             if (elements <= 3) {
@@ -155,13 +136,13 @@ public final class ModelsTest {
         counts("naa", 0, 0, 0, 0, 0, 0, 0);
         counts("sab sbc iab", 0, 2, 28, 296, 2800, 24992, 215488);
         counts("sab sbc iab dab", 0, 0, 0, 0, 0, 0, 0);
-        Gimlet gimlet = posed("sab", "xab");
+        Gimlet gimlet = Check.posed("sab", "xab");
         Check.due("the goal does not count", gimlet.models(1), 12L);
         Check.due("the goal does not count by trying", gimlet.modelsByTrying(1), 12L);
     }
 
     private static void countingLimits() {
-        Gimlet gimlet = posed("sab", "");
+        Gimlet gimlet = Check.posed("sab", "");
         for (int elements : new int[] {-1, 7, Integer.MIN_VALUE, Integer.MAX_VALUE}) {
             Check.illegalArgument("models(" + elements + ")", gimlet, () -> gimlet.models(elements));
             Check.illegalArgument("modelsByTrying(" + elements + ")", gimlet, () -> gimlet.modelsByTrying(elements));

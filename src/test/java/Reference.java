@@ -159,7 +159,8 @@ final class Reference {
         return terms.get(number);
     }
 
-    private static void collect(String text, List<String> into) {
+    /** Adds the terms of which the text consists, those of the left term first, and then itself. */
+    static void collect(String text, List<String> into) {
         char head = text.charAt(0);
         if (head == 'C') {
             collect(text.substring(1), into);
