@@ -233,6 +233,7 @@ final class StatementBoundaries {
         Check.due("the third in its place", gimlet.follows(), false);
         gimlet.setGoal('e', 0, 0);
         Check.due("the fourth in its place", gimlet.follows(), true);
+        Check.due("a goal is no assumption", gimlet.assumptions(), 0);
         Check.due("models(1)", gimlet.models(1), 16L);
         Gimlet full = Scripts.FULL.play();
         full.setGoal('d', 119, 119);
