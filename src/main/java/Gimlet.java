@@ -163,7 +163,7 @@ public final class Gimlet {
         checkTerm(term);
         rewriter.load(known, term);
         int made = 0;
-        while (made < STEP_BOUND && rewriter.canGoOn() && rewriter.rewrite()) {
+        while (made < STEP_BOUND && rewriter.seek() && rewriter.rewrite()) {
             made++;
         }
         return made;
@@ -173,7 +173,7 @@ public final class Gimlet {
             IllegalStateException {
         checkTerm(term);
         rewriter.load(known, term);
-        for (int made = 0; made < STEP_BOUND && rewriter.canGoOn(); made++) {
+        for (int made = 0; made < STEP_BOUND && rewriter.seek(); made++) {
             rewriteOrThrow();
         }
         return madeOrThrow(known.makeAll(rewriter.text()));
@@ -203,7 +203,7 @@ public final class Gimlet {
     }
 
     private char ruleOrThrow() {
-        if (!rewriter.canGoOn()) {
+        if (!rewriter.seek()) {
             throw new NoSuchElementException("no rule can rewrite anything in the term");
         }
         return rewriter.nextRule();
@@ -647,10 +647,6 @@ public final class Gimlet {
             }
             return true;
         }
-
-        boolean isComplement(int term, int of) {
-            return at(term) == 'C' && isSame(term + 1, of);
-        }
     }
 
     /** Rewrites one term step by step, without making the terms between. */
@@ -666,28 +662,25 @@ public final class Gimlet {
             for (int index = 0; index < size; index++) {
                 now.put(terms.symbolOf(term, index));
             }
-            seek();
         }
 
         Text text() {
             return now;
         }
 
-        boolean canGoOn() {
-            return rule != BLANK;
-        }
-
         char nextRule() {
             return rule;
         }
 
-        private void seek() {
+        /** Finds the place and the rule of the next step; false if no rule can rewrite anything. */
+        boolean seek() {
             now.measure();
             rule = BLANK;
             for (int index = 0; index < now.length() && rule == BLANK; index++) {
                 place = index;
                 rule = ruleAt(index);
             }
+            return rule != BLANK;
         }
 
         private char ruleAt(int index) {
@@ -735,10 +728,12 @@ public final class Gimlet {
             if (now.isSame(left, right)) {
                 return 'p';
             }
-            return now.isComplement(left, right) || now.isComplement(right, left) ? 'c' : BLANK;
+            boolean leftIsComplement = now.at(left) == 'C' && now.isSame(left + 1, right);
+            boolean rightIsComplement = now.at(right) == 'C' && now.isSame(right + 1, left);
+            return leftIsComplement || rightIsComplement ? 'c' : BLANK;
         }
 
-        /** Makes the next step; answers false, and changes nothing, if it can't be made. */
+        /** Makes the step that seek has found; answers false, and changes nothing, if it can't be made. */
         boolean rewrite() {
             int end = now.endOf(place);
             next.clear();
@@ -751,7 +746,6 @@ public final class Gimlet {
             Text old = now;
             now = next;
             next = old;
-            seek();
             return true;
         }
 
