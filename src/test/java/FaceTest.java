@@ -2,7 +2,11 @@ import java.lang.reflect.Constructor;
 import java.lang.reflect.Field;
 import java.lang.reflect.Method;
 import java.lang.reflect.Modifier;
+import java.nio.file.Files;
+import java.nio.file.Path;
 import java.util.TreeSet;
+import java.util.regex.Matcher;
+import java.util.regex.Pattern;
 
 /** The public face: just the members of the document, with the exceptions that it names. */
 public final class FaceTest {
@@ -50,7 +54,8 @@ public final class FaceTest {
         "float density(int) throws IndexOutOfBoundsException",
     };
 
-    public static void main(String[] args) {
+    public static void main(String[] args) throws Exception {
+        document(Files.readString(Path.of("../shared/DOC.md")), Files.readString(Path.of("src/main/java/Gimlet.java")));
         TreeSet<String> want = new TreeSet<>();
         TreeSet<String> names = new TreeSet<>();
         for (String member : FACE) {
@@ -86,6 +91,35 @@ public final class FaceTest {
             }
         }
         Check.finish("FaceTest");
+    }
+
+    /** The list above is the document's, and the program has its calls in the order and the parts told there. */
+    private static void document(String document, String program) {
+        String declared = "(?m)^    public (\\w+) (\\w+)\\(([^)]*)\\)( throws [^;]*)?;$";
+        Matcher method = Pattern.compile(declared).matcher(document);
+        int found = 0;
+        while (method.find()) {
+            String parameters = method.group(3).replaceAll("(\\w+) \\w+", "$1");
+            String thrown = method.group(4) == null ? "" : method.group(4).substring(8).replace(",", "");
+            String told = method.group(1) + " " + method.group(2) + "(" + parameters + ") throws " + thrown;
+            Check.due("method " + found + " of the document", told.trim(), found < FACE.length ? FACE[found] : "");
+            found++;
+        }
+        Check.due("methods of the document", found, FACE.length);
+        Matcher part = Pattern.compile("Ahead of the calls (.*) the interface says: ([a-z ]+)\\.").matcher(document);
+        int parts = 0;
+        int end = 0;
+        while (part.find()) {
+            parts++;
+            int start = program.indexOf("// ---- " + part.group(2) + "\n");
+            Check.holds(part.group(2) + " is said behind the part before", start > end);
+            for (String name : part.group(1).split(",? ")) {
+                int call = program.indexOf(" " + name.replace("`", "") + "(", start);
+                Check.holds(name + " stands behind the call before it", call > Math.max(start, end));
+                end = call;
+            }
+        }
+        Check.due("parts", parts, 5);
     }
 
     private static void fields(Class<?> type) {

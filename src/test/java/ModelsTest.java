@@ -22,6 +22,7 @@ public final class ModelsTest {
         least("i1a i1b d1Iab", "iac", 1, 2);
         firstOfSeveral();
         oneGoalAfterAnother();
+        fewerDemands();
         sevenElements();
         elementLimits();
         counting();
@@ -72,6 +73,32 @@ public final class ModelsTest {
         gimlet.drop();
         Check.due("the first region again", gimlet.region(0), 0);
         Check.due("elements() again", gimlet.elements(), 1);
+    }
+
+    /** What an earlier search had to meet is not to be met in the next one. */
+    private static void fewerDemands() {
+        Gimlet gimlet = Check.posed("i1a i1Ca", "d1b");
+        int all = Check.make(gimlet, "1");
+        int b = Check.make(gimlet, "b");
+        found("a denial as the goal", gimlet, 0, 3);
+        gimlet.setGoal('i', all, b);
+        found("a demand as the goal", gimlet, 0, 1);
+        gimlet.drop();
+        found("one demand less", gimlet, 1);
+        gimlet.drop();
+        found("no demand", gimlet);
+        gimlet.setGoal('d', all, b);
+        found("the denial again", gimlet, 2);
+    }
+
+    private static void found(String what, Gimlet gimlet, int... regions) {
+        Check.due(what + ": elementsByTrying()", Check.outcome(gimlet::elementsByTrying), regions.length);
+        Check.due(what + ": elements()", Check.outcome(gimlet::elements), regions.length);
+        for (int element = 0; element < regions.length; element++) {
+            int one = element;
+            Check.due(what + ": region " + one, Check.outcome(() -> gimlet.region(one)), regions[one]);
+        }
+        Check.noSuchElement(what + ": no more regions", gimlet, () -> gimlet.region(regions.length));
     }
 
     /** Six assumptions demand an element each in a part of their own, and the goal's denial one more. */
